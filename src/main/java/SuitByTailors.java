@@ -833,6 +833,7 @@ public final class SuitByTailors {
      */
     private static final class BoltSearch {
         final int[] boltOf = new int[MOST_PARTS];
+        /** All 0 ahead of a search and behind it: a PART that was tried is taken off again. */
         private final int[] filled = new int[MOST_PARTS];
         private int most = 0;
 
@@ -840,9 +841,6 @@ public final class SuitByTailors {
         int search(Plan plan, int[] lengths) {
             for (int bolts = 1; bolts <= plan.parts; bolts++) {
                 most = bolts;
-                for (int bolt = 0; bolt < MOST_PARTS; bolt++) {
-                    filled[bolt] = 0;
-                }
                 if (findsBolts(plan, lengths, 0, 0)) {
                     return bolts;
                 }

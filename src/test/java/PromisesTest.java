@@ -215,6 +215,17 @@ public final class PromisesTest {
         due("5: g as without", x.closes(), 0);
         x.alter(1, -1);
         due("5: g as without", x.closes(), 1);
+        // A third text: by then each place that a text is read into has been read into before.
+        x.wipe();
+        Checks.tell(x, "t100;p0,149,3;p0,151,3;");
+        x.lay();
+        for (int i = 0; i < 2; i++) {
+            x.alter(i, 150 - x.part(i, 6));
+        }
+        due("5: 300 long", x.bolts(-1), 1);
+        x.alter(1, 1);
+        due("5: 301 long", x.bolts(-1), 2);
+        due("5: boy 0", x.part(1, 4), (int) (9723L * 9723L % 65521 % 3) - 1 + 100);
         // The boy who is 999: x = 7919 * 999 + 6151 + 3571 + 1 = 7920804 for part 1 as the first.
         SuitByTailors z = Checks.laid("t100;p0,50,3;p0,50,3;z7;z999;");
         due("5: z", z.part(1, 4), (int) (7920804L * 7920804L % 65521 % 3) - 1 + 100);
