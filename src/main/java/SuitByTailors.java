@@ -770,6 +770,8 @@ public final class SuitByTailors {
      * so what was found is known until then.
      */
     private static final class OrderSearch {
+        private static final int MORE_THAN_ALL_GAPS = MOST_SEAMS * LONGEST + 1;
+
         final int[] best = new int[MOST_PARTS];
         boolean known = false;
         int leastSum = 0;
@@ -778,7 +780,7 @@ public final class SuitByTailors {
         private int placed = 0;
 
         void search(Plan plan) {
-            leastSum = Integer.MAX_VALUE;
+            leastSum = MORE_THAN_ALL_GAPS;
             placed = 0;
             tryPlace(plan, 0, 0);
             known = true;

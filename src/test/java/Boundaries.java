@@ -110,7 +110,8 @@ final class Boundaries {
     }
 
     private static void addParts(SuitByTailors x, List<Integer> seen) {
-        for (int i = 0; i < x.count(1); i++) {
+        int parts = x.count(1);
+        for (int i = 0; i < parts; i++) {
             for (int what = 0; what < 7; what++) {
                 seen.add(x.part(i, what));
             }
@@ -128,14 +129,16 @@ final class Boundaries {
         seen.add(x.bolts(-1));
         seen.add(x.coat(0));
         seen.add(x.year(0, 100, 1));
-        for (int t = 0; t < x.count(0); t++) {
+        int tailors = x.count(0);
+        for (int t = 0; t < tailors; t++) {
             seen.add(x.inch(t, 0));
             seen.add(x.inch(t, 1));
         }
     }
 
     private static void addFitting(SuitByTailors x, List<Integer> seen) {
-        for (int i = 0; i < x.count(1); i++) {
+        int parts = x.count(1);
+        for (int i = 0; i < parts; i++) {
             seen.add(x.part(i, 3));
             seen.add(x.part(i, 6));
         }

@@ -22,7 +22,7 @@ public final class FaceTest {
             "thumb(int)", "year(int,int,int)", "keep()", "back()", "count(int)");
     /** Words that LANGUAGE.md leaves no place for, or that this class has no need of. */
     private static final String FORBIDDEN = "\\b(import|package|catch|try|finally|throw|throws|assert"
-            + "|synchronized|native|transient|volatile|System|Thread|Object|hashCode|toString|equals)\\b"
+            + "|synchronized|native|transient|volatile|System|Thread|Integer|Object|hashCode|toString|equals)\\b"
             + "|->|::|@|\\+ *\"|\" *\\+";
 
     private static int wrong = 0;

@@ -152,6 +152,30 @@ public final class OrdersBoundaryTest {
         return slips;
     }
 
+    static void promise12AnewWhenLaidAnew() {
+        SuitByTailors x = new SuitByTailors();
+        due("at first", x.order(-1), 5);
+        due("at first", x.order(0), 1);
+        due("nothing to lay", x.lay(), Boundaries.NO);
+        due("as at first", x.order(-1), 5);
+        Checks.tell(x, "t100;p0,50,3;p0,80,3;p0,50,3;g0;");
+        x.lay();
+        due("no SEAMS", x.order(-1), 0);
+        for (int i = 0; i < 3; i++) {
+            due("as they come: " + i, x.order(i), i);
+        }
+        due("no fourth", x.order(3), BAD);
+    }
+
+    static void promise12GapsAsWideAsCanBe() {
+        // One as short as can be CUT, one as long, ten SEAMS of the two: no boy brings them near.
+        SuitByTailors x = Checks.laid("t80;t120;p0,10,3;p1,199,3;" + "s0,1;".repeat(10) + "z999;");
+        int first = (199 + Boundaries.slip(1, 1, 999)) * 120 / 100 - 8;
+        int second = 238 - (10 + Boundaries.slip(0, 1, 999)) * 80 / 100;
+        due("the sum", x.order(-1), 10 * Math.min(first, second));
+        due("the first PART", x.order(0), first <= second ? 0 : 1);
+    }
+
     static void promise12ChangesNothing() {
         SuitByTailors x = Boundaries.some();
         SuitByTailors anew = Checks.laid(Boundaries.SMALL);

@@ -80,6 +80,14 @@ public final class SuitsBoundaryTest {
         due("another was filled", Boundaries.whole(x), Boundaries.whole(new SuitByTailors()));
     }
 
+    static void promise01TheLastOf512Calls() {
+        SuitByTailors x = new SuitByTailors();
+        for (int call = 1; call < 512; call++) {
+            x.alter(0, call % 2 == 0 ? -1 : 1);
+        }
+        due("the last one", x.part(0, 6), 61);
+    }
+
     // ---- 2: write
 
     static void promise02From1To8Bytes() {
