@@ -11,6 +11,10 @@ final class Checks {
         }
     }
 
+    int wrong() {
+        return wrong;
+    }
+
     /** Ends the program: with exit code 1 if an answer was wrong. */
     void end(String test) {
         System.out.println(test + ": " + (wrong == 0 ? "all as due" : wrong + " not as due"));
